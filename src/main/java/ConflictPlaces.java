@@ -1504,12 +1504,9 @@ public final class ConflictPlaces {
                 openCount++;
             }
             put('a' + i % 26);
-            int again = i / 26;
-            if (again >= 10) {
-                put('0' + again / 10);
-            }
-            if (again > 0) {
-                put('0' + again % 10);
+            // THE OUT has no room for a hundred open types, so one digit tells the alphabet.
+            if (i >= 26) {
+                put('0' + i / 26);
             }
         }
 

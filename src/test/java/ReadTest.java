@@ -9,6 +9,7 @@ public final class ReadTest {
         innerLimit();
         nodeLimit();
         depthLimit();
+        textsBehindLongerOnes();
         faultyTextChangesNothing();
         Check.end();
     }
@@ -125,6 +126,12 @@ public final class ReadTest {
         fault("f = + 1", 4);
         fault("f = 1 + + 2", 8);
         fault("f = 1 +++ 2", 8);
+        fault("f = 1 ++", 8);
+        fault("f = 1 &&", 8);
+        fault("f = 1 ==", 8);
+        fault("f = (1 = , 2)", 7);
+        fault("f = (1 : , 2)", 9);
+        fault("f = ([1 ; , 2)", 8);
         fault("f = 1 == 2 == 3", 11);
         fault("f = 1 < 2 == 3", 10);
         fault("f = 1 == 2 : 3 < 4", 15);
@@ -211,6 +218,8 @@ public final class ReadTest {
         due("f=" + Check.times("(", 19) + "\\x.x" + Check.times(")", 19), 3);
         fault("f=" + Check.times("(", 19) + "\\x.(x)", 24);
         fault("f=" + Check.times("(", 19) + "\\x.\\y.1", 24);
+        due("f=" + Check.times("(", 18) + "\\x.\\y.x" + Check.times(")", 18), 4);
+        due("f=" + Check.times("(", 18) + "if (1) then [] else \\x.x" + Check.times(")", 18), 8);
         // An if is not ended before its last E is.
         String deepIf = "f=" + Check.times("(", 19) + "if 1 then 1 else ";
         due(deepIf + "1" + Check.times(")", 19), 7);
@@ -219,6 +228,24 @@ public final class ReadTest {
         // What is ended counts no more.
         due("f=" + Check.times("(", 19) + "(1)(1)" + Check.times(")", 19) + "[]", 6);
         due("f=" + Check.times("(", 18) + "(\\x.x)(if 1 then 1 else 1)(1)" + Check.times(")", 18), 12);
+    }
+
+    /** What stood on the tape behind the end of this text is no part of it. */
+    private static void textsBehindLongerOnes() {
+        behind("f = 1234567", "f = 123456", 2);
+        behind("f = \"abc\"", "f = \"abc", -14);
+        behind("f = \"abc\"", "f = \"", -14);
+        behind("f = 1 && true", "f = 1 &", -16);
+        behind("f = 1 + 1", "f = 1 +", -17);
+        behind("abcdefghi", "abcdefgh", -18);
+        behind("f = idid", "f = id", 2);
+        behind("a=1;b=1;c=1", "a=1;b=1;", -18);
+    }
+
+    private static void behind(String longer, String text, int want) {
+        ConflictPlaces x = new ConflictPlaces();
+        Check.read(x, longer);
+        Check.due("read of " + text + " behind " + longer, Check.read(x, text), want);
     }
 
     private static void faultyTextChangesNothing() {

@@ -106,6 +106,12 @@ public final class TypeTest {
         Check.due("out stays", Check.out(y), "((Num,Num),Num)");
         Check.due("a node of 301 bytes", y.type(y.told(2) - 8), Check.FULL);
         Check.due("a node of 299 bytes", y.type(y.told(2) - 7), 299);
+        // A function's last part ends what is written, with 300 bytes and with 301.
+        ConflictPlaces v = Check.of(start + "f=\\x.if x==[(e,1)]then 1 else 2");
+        Check.due("binder(16)", v.binder(16), 300);
+        Check.due("out(299)", v.out(299), 'm');
+        ConflictPlaces w = Check.of(start + "f=\\x.if x==[(e,\"\")]then 1 else 2");
+        Check.due("binder(16)", w.binder(16), Check.FULL);
         ConflictPlaces z = Check.of("a=(1,1);b=(a,a);c=(b,b);d=(c,c);e=(d,d);f=((((e,e),(e,e)),((e,e),(e,e))),e)");
         Check.due("a type of far more", z.binder(16), Check.FULL);
         Check.due("out stays empty", z.out(0), Check.NONE);

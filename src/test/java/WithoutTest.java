@@ -13,6 +13,7 @@ public final class WithoutTest {
         Check.due("out stays", Check.out(x), "Num");
         fittingText();
         openParts();
+        signs();
         longTypes();
         wrongNumbers(x);
         Check.end();
@@ -47,6 +48,16 @@ public final class WithoutTest {
         due(y, 3, 0, "a -> b");
         due(y, 2, 1, "a");
         due(y, 0, 0, "-3");
+    }
+
+    /** Which of its operands a sign's node is as. */
+    private static void signs() {
+        due(Check.of("f x = x ++ 1"), 3, 1, "[a]");
+        due(Check.of("f x = x ++ 1"), 2, 1, "Num");
+        due(Check.of("f x = x : 1"), 2, 1, "Num");
+        due(Check.of("f x = x : 1"), 4, 1, "[a]");
+        due(Check.of("f = if true then 1 else \"\""), 3, 0, "Text");
+        due(Check.of("f = if true then 1 else \"\""), 5, 0, "Num");
     }
 
     private static void longTypes() {
