@@ -6,8 +6,9 @@ import java.util.List;
 
 /**
  * Whole texts with every answer that they have, all promises together. The answers in
- * src/test/data/golden.txt are those of a second program, written apart from this one, that rewrites
- * the tree for each change and makes its rules anew; bytes that can't be printed stand there as %xx.
+ * src/test/data/golden.txt are those of a second program of the same author, not kept here, that
+ * rewrites the tree for each change and makes its rules anew: it can show slips, but not a wrong
+ * reading of the document. Bytes that can't be printed stand there as %xx.
  */
 public final class GoldenTest {
     public static void main(String[] args) throws IOException {
