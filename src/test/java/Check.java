@@ -20,10 +20,16 @@ final class Check {
         }
     }
 
-    /** Feeds each character as one byte. */
+    /** Feeds each character as one byte, in as few calls as can be: an object has 512 of them. */
     static void feed(ConflictPlaces x, String text) {
-        for (int i = 0; i < text.length(); i++) {
-            due("feed of byte " + i + " of " + text, x.feed(1, text.charAt(i)), x.told(7));
+        int had = x.told(7);
+        for (int from = 0; from < text.length(); from += 8) {
+            int n = Math.min(8, text.length() - from);
+            long bytes = 0;
+            for (int i = 0; i < n; i++) {
+                bytes |= (long) text.charAt(from + i) << 8 * i;
+            }
+            due("feed of " + n + " bytes of " + text, x.feed(n, bytes), had + from + n);
         }
     }
 
@@ -84,6 +90,11 @@ final class Check {
 
     static String times(String part, int count) {
         return part.repeat(count);
+    }
+
+    /** How many answers were not due so far. */
+    static int wrong() {
+        return wrong;
     }
 
     static void end() {

@@ -10,37 +10,45 @@ public final class ManyCallsTest {
     };
 
     public static void main(String[] args) {
-        for (int seed = 0; seed < 300; seed++) {
+        for (int seed = 0; seed < 1000; seed++) {
             run(seed);
         }
         dearestTexts();
         Check.end();
     }
 
+    /** Two objects, of which only one gets the calls that are refused: all else is answered alike. */
     private static void run(int seed) {
         Random random = new Random(seed);
         ConflictPlaces x = new ConflictPlaces();
         ConflictPlaces same = new ConflictPlaces();
         for (int i = 0; i < 300; i++) {
-            if (random.nextInt(20) == 0) {
-                String text = TEXTS[random.nextInt(TEXTS.length)];
-                for (int k = 0; k < text.length(); k++) {
-                    x.feed(1, text.charAt(k));
-                    same.feed(1, text.charAt(k));
-                }
-                Check.due("read()", x.read(), same.read());
+            if (random.nextInt(30) == 0) {
+                readBoth(x, same, TEXTS[random.nextInt(TEXTS.length)]);
             }
             int call = random.nextInt(17);
             int a = number(random);
             int b = number(random);
-            long before = state(x);
             int answer = call(x, call, a, b);
-            Check.due("call " + call + " once more elsewhere", call(same, call, a, b), answer);
             boolean refused = answer <= -1 && answer >= -4;
-            if (refused) {
-                Check.due("state behind call " + call + "(" + a + ", " + b + ")", state(x), before);
+            if (!refused) {
+                Check.due("call " + call + " once more elsewhere", call(same, call, a, b), answer);
             }
         }
+        for (int what = 0; what < 8; what++) {
+            Check.due("told(" + what + ") elsewhere", same.told(what), x.told(what));
+        }
+        for (int i = 0; i < 20; i++) {
+            Check.due("out(" + i + ") elsewhere", same.out(i), x.out(i));
+        }
+    }
+
+    private static void readBoth(ConflictPlaces x, ConflictPlaces same, String text) {
+        // What random calls have fed is no part of the text.
+        Check.due("read() of what there is", x.read(), same.read());
+        Check.feed(x, text);
+        Check.feed(same, text);
+        Check.due("read() of " + text, x.read(), same.read());
     }
 
     private static int number(Random random) {
@@ -97,17 +105,6 @@ public final class ManyCallsTest {
         }
     }
 
-    private static long state(ConflictPlaces x) {
-        long state = 17;
-        for (int what = 0; what < 8; what++) {
-            state = state * 31 + x.told(what);
-        }
-        for (int i = 0; i < 302; i++) {
-            state = state * 31 + x.out(i);
-        }
-        return state;
-    }
-
     /** Texts with as many nodes, NAMES and rules as there can be. */
     private static void dearestTexts() {
         String names = "f a b c d e g h i j k l m n o p q=";
@@ -127,7 +124,7 @@ public final class ManyCallsTest {
             }
             Check.due("told(6) of " + text, x.told(6), 1);
             int count = x.changes();
-            for (int i = 0; i < count; i++) {
+            for (int i = 0; i < Math.min(count, 400); i++) {
                 Check.due("mended of " + text, x.mended(i, 11) >= Check.FULL ? 1 : 0, 1);
             }
         }
