@@ -51,8 +51,10 @@ final class Check {
     /** THE OUT, whole. */
     static String out(ConflictPlaces x) {
         StringBuilder b = new StringBuilder();
-        for (int i = 0; i <= 300 && x.out(i) != NONE; i++) {
-            b.append((char) x.out(i));
+        int next = x.out(0);
+        for (int i = 1; i <= 301 && next != NONE; i++) {
+            b.append((char) next);
+            next = x.out(i);
         }
         return b.toString();
     }
@@ -69,7 +71,8 @@ final class Check {
 
     static String setOf(ConflictPlaces x, int set) {
         StringBuilder b = new StringBuilder();
-        for (int i = 0; i < x.set(set, -1); i++) {
+        int size = x.set(set, -1);
+        for (int i = 0; i < size; i++) {
             b.append(i == 0 ? "" : " ").append(x.set(set, i));
         }
         return b.toString();

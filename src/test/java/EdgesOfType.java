@@ -119,9 +119,10 @@ final class EdgesOfType {
         Check.due("a type of 301", more.type(17), Check.FULL);
         Check.due("out(0): it stays empty", more.out(0), Check.NONE);
         Check.due("a type of 299", more.type(18), 299);
-        String before = Check.out(more);
         Check.due("a type of 301", more.type(17), Check.FULL);
-        Check.due("THE OUT stays", Check.out(more), before);
+        // Another object tells what stood there: one has not enough calls to tell it twice.
+        ConflictPlaces other = Check.of(LONG + "f=[[[[[(e,1)]]]]]");
+        Check.due("THE OUT stays", Check.out(more), Check.written(other, other.type(18)));
     }
 
     /** What ends a type of 300 or 301: a word, an open type, a function's right side. */
