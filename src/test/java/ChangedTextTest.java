@@ -70,8 +70,8 @@ public final class ChangedTextTest {
     }
 
     /**
-     * Makes texts at random that fit but for one slip, so that there are changes that mend them. No
-     * two BINDERS have the same NAME: one is known by it.
+     * Makes texts at random that fit but for one slip, so that there are changes that mend them; a
+     * text that ends before its slip comes fits. No two BINDERS have the same NAME: one is known by it.
      */
     private static final class Maker {
         private static final int OTHER_TYPE = 0, ARGUMENTS = 1, SIGN = 2, ONE_MORE = 3;
